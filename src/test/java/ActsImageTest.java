@@ -6,6 +6,7 @@ public final class ActsImageTest {
         noAct();
         as();
         imageOfAll();
+        imageOfRows();
         images();
         imageOfSchools();
         undoneLayers();
@@ -142,6 +143,40 @@ public final class ActsImageTest {
         x.egg();
         Check.due("undo() once more", x.undo(), 2);
         Check.isTrue("all is as the image again", before.equals(Check.all(x)));
+    }
+
+    /** What was emptied and written anew behind the image is as it was, too. */
+    private static void imageOfRows() {
+        EggDrop x = Check.withSchool("turn 0");
+        for (int i = 0; i < 8; i++) {
+            x.layer(6, 0, 1, 0, i % 4);
+            x.row(i, 2, i + 1);
+        }
+        x.see(4, 0, true);
+        x.book(19, 2, 77);
+        Check.feedAll(x, "bear 4");
+        x.image();
+        int force = x.fall(4, 0, 0);
+        Check.due("the tape is a school", x.school(), 1);
+        Check.feedAll(x, "turn 7");
+        x.see(-1, 0, true);
+        x.see(20, 1, false);
+        x.book(-1, 0, 0);
+        x.book(4, 0, force);
+        for (int i = 0; i < 8; i++) {
+            x.row(i, 2, 0);
+        }
+        Check.due("it is so", x.looked(), -5);
+        Check.due("undo()", x.undo(), 8);
+        Check.due("the row of BOOK", x.looked(), 0);
+        Check.due("SEEN: the least", x.strong(0), force);
+        Check.due("SEEN: the greatest", x.strong(1), 99);
+        for (int i = 0; i < 8; i++) {
+            Check.due("the row of " + i, x.row(i, 2, 0), i + 1);
+        }
+        Check.due("the tape's school", x.school(), 1);
+        Check.due("its bear", x.told(1), 4);
+        Check.due("its turn", x.told(2), 1);
     }
 
     private static void images() {

@@ -37,6 +37,19 @@ public final class BoxesTest {
         Check.due("it weighs 3", x.lighter(5, 0, 1), 3);
         x.drop(20, 0);
         Check.due("none for a broken egg", x.lighter(0, 0, 0), -5);
+        x = new EggDrop();
+        x.layer(0, 0, 1, 0, 0);
+        x.layer(0, 0, 1, 0, 1);
+        Check.due("those that weigh nothing stay", x.lighter(0, 0, 0), 0);
+        for (int i = 2; i < 8; i++) {
+            x.layer(0, 0, 1, 0, 2);
+        }
+        Check.due("eight that weigh nothing", x.lighter(0, 0, 0), 0);
+        x = Check.withSchool("turn 0;bear 20");
+        for (int i = 0; i < 8; i++) {
+            x.layer(0, 0, 5, 1, i == 7 ? 0 : 1);
+        }
+        Check.due("seven of eight may go", x.lighter(5, 0, 0), 127);
     }
 
     private static void lighterWeighsLess() {
@@ -104,6 +117,12 @@ public final class BoxesTest {
         x.layer(1, 0, 5, 0, 3);
         Check.due("22, 20, 15", x.fall(4, 3, 0), 15);
         Check.due("away with layer 0, to the first side", x.shift(4, 3), 0);
+        x = Check.withSchool("turn 0");
+        for (int i = 0; i < 8; i++) {
+            x.layer(0, 0, i == 7 ? 2 : 1, 0, 1);
+        }
+        Check.due("the last of eight", x.shift(2, 0), 70);
+        Check.due("the last of eight to the last side", x.shift(2, 3), 73);
     }
 
     private static void shiftRefusals() {

@@ -92,6 +92,9 @@ public final class FallsTest {
         one(1, 9, 4, 4, 16, 0);
         one(1, 9, 4, 5, 17, 0);
         one(1, 0, 9, 1, 0, 0);
+        EggDrop x = Check.withSchool("turn 0");
+        x.layer(1, 0, 4, 10, 0);
+        Check.due("21 is above 20", x.fall(4, 0, 0), 13);
     }
 
     private static void standing() {
@@ -263,6 +266,14 @@ public final class FallsTest {
         Check.due("drop(0, -1)", x.drop(0, -1), -1);
         Check.due("drop(0, 4)", x.drop(0, 4), -1);
         Check.due("TRY", x.told(0), 0);
+        for (int i = 0; i < 9999; i++) {
+            x.drop(0, 0);
+        }
+        Check.due("the latest TRY", x.told(0), 9999);
+        Check.due("whole still", x.told(4), 1);
+        Check.due("TRY is 9999", x.drop(0, 0), -3);
+        Check.due("TRY is 9999, NONE", x.drop(21, 0), -1);
+        x = new EggDrop();
         x.drop(20, 0);
         Check.due("NONE ahead of STATE", x.drop(21, 0), -1);
         Check.due("NONE ahead of STATE, side", x.drop(0, 4), -1);

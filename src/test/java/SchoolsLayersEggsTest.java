@@ -7,6 +7,7 @@ public final class SchoolsLayersEggsTest {
         goodSchools();
         faults();
         limitsOfASchool();
+        longSchoolsInTurn();
         fullSchools();
         lastOfSeveral();
         layers();
@@ -176,6 +177,22 @@ public final class SchoolsLayersEggsTest {
         faulty(hundred.substring(0, 99) + "|", 100);
     }
 
+    /** What one school or a fault has read is out of the way of the next one. */
+    private static void longSchoolsInTurn() {
+        EggDrop x = new EggDrop();
+        for (int i = 0; i < 5; i++) {
+            String text = "wind 1" + i + " ";
+            while (text.length() < 89) {
+                text += "f=9|";
+            }
+            Check.due("a fault", Check.schoolOf(x, text + "s=" + i + "|"), -10 - text.length() - 4);
+            Check.due("a school", Check.schoolOf(x, text + "s=" + i), i);
+            for (int side = 0; side < 4; side++) {
+                Check.due("its wind on side " + side, x.fall(0, side, 0), side == i ? 10 + i : 0);
+            }
+        }
+    }
+
     private static void fullSchools() {
         EggDrop x = new EggDrop();
         for (int i = 0; i < 5; i++) {
@@ -266,6 +283,12 @@ public final class SchoolsLayersEggsTest {
         x.drop(0, 0);
         Check.due("TRY 1", x.of(2, 6), 1);
         Check.due("all at TRY 1", x.told(6), 70);
+        for (int i = 1; i < 11; i++) {
+            Check.due("TRY " + i, x.of(2, 6), i == 1 ? 1 : 0);
+            x.drop(0, 0);
+            x.egg();
+        }
+        Check.due("TRY 11", x.of(2, 6), 1);
     }
 
     /** Each letter, each of < = >, on both sides of its number. */
@@ -308,6 +331,9 @@ public final class SchoolsLayersEggsTest {
         wind("(f=4|s=1)&k=0", false);
         wind("k=0&s=1|f=4", true);
         wind("k=0&(s=1|f=4)", false);
+        wind("f=4&(s=2)", true);
+        wind("f=4&(s=1|s=2)", true);
+        wind("k=0|(s=1|s=2)", true);
         wind("!f=5&s=1", false);
         wind("!(f=5&s=1)", true);
         wind("!(f=4|s=1)|t=3", true);

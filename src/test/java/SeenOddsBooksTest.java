@@ -114,6 +114,15 @@ public final class SeenOddsBooksTest {
         // 18 cracks it, bears 17 then, 10, 11 hold: 3 for side 0; 22 - 2 = 20
         Check.due("odds of a layer", x.odds(4, 0), 3);
         Check.due("odds of a layer, below", x.odds(4, 1), 20);
+        for (int side = 1; side < 4; side++) {
+            x = Check.withSchool("turn 0;bear 9");
+            x.layer(0, 0, 9, 0, side);
+            // 5 .. 14 hold up to 9 on three sides, all of them on the one: 25 of 40
+            Check.due("odds of side " + side, x.odds(1, 0), 5);
+            Check.due("odds of side " + side + ", below", x.odds(1, 1), 8);
+        }
+        x = Check.withSchool("turn 0;bear 9");
+        Check.due("0 .. 9 alone", x.odds(0, 0), 1);
         x.drop(20, 0);
         Check.due("none for a broken egg", x.odds(0, 0), 0);
         Check.due("none for a broken egg, below", x.odds(0, 1), 1);
