@@ -139,7 +139,7 @@ public final class EggDrop {
         if (!box.egg.whole || box.tries >= TOP_TRY) {
             return STATE;
         }
-        letFall(floor, side);
+        letFall(floor, side, 0, 0);
         box.egg.copyFrom(latest.egg);
         box.layers.brokenBits = latest.brokenBits;
         box.tries++;
@@ -150,7 +150,7 @@ public final class EggDrop {
         if (!isFloor(floor) || !isSide(side)) {
             return NONE;
         }
-        letFall(floor, side);
+        letFall(floor, side, 0, 0);
         switch (what) {
             case 0: return latest.force();
             case 1: return latest.lands;
@@ -246,7 +246,7 @@ public final class EggDrop {
         }
         int floors = 0;
         for (int floor = 0; floor <= TOP_FLOOR; floor++) {
-            letFall(floor, side);
+            letFall(floor, side, 0, 0);
             if (latest.brokenBits == set) {
                 floors |= 1 << floor;
             }
@@ -299,13 +299,8 @@ public final class EggDrop {
     }
 
     public int book(int floor, int side, int force) {
-        if (floor == -1) {
-            return write(box.booked, floor, side, force);
-        }
-        if (!isFloor(floor) || !isSide(side)) {
-            return NONE;
-        }
-        if (force < 0 || force > MAX_FORCE) {
+        boolean isRow = isFloor(floor) && isSide(side);
+        if (isRow && (force < 0 || force > MAX_FORCE)) {
             return BAD;
         }
         return write(box.booked, floor, side, force);
@@ -415,14 +410,13 @@ public final class EggDrop {
         return sum;
     }
 
-    private void letFall(int floor, int side) {
-        latest.happen(box, holding(), floor, side, 0, 0);
+    private void letFall(int floor, int side, int added, int without) {
+        latest.happen(box, holding(), floor, side, added, without);
         latest.meet(box.egg, bear());
     }
 
     private boolean staysWhole(int floor, int side, int added, int without) {
-        latest.happen(box, holding(), floor, side, added, without);
-        latest.meet(box.egg, bear());
+        letFall(floor, side, added, without);
         return latest.egg.whole;
     }
 
@@ -465,6 +459,7 @@ public final class EggDrop {
         }
     }
 
+    /** A row comes to what was told by hand, or, by the floor -1, all rows go. */
     private static int write(Sheet rows, int floor, int side, int value) {
         if (floor == -1) {
             rows.size = 0;

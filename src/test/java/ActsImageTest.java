@@ -149,7 +149,7 @@ public final class ActsImageTest {
     private static void imageOfRows() {
         EggDrop x = Check.withSchool("turn 0");
         for (int i = 0; i < 8; i++) {
-            x.layer(6, 0, 1, 0, i % 4);
+            x.layer(6, 0, 1 + i % 4, 0, i % 4);
             x.row(i, 2, i + 1);
         }
         x.see(4, 0, true);

@@ -218,6 +218,10 @@ public final class SchoolsLayersEggsTest {
         Check.due("a third", Check.schoolOf(x, "bear 0"), 2);
         Check.due("bear 0", x.told(1), 0);
         Check.due("turn, none there", x.told(2), 1);
+        Check.due("a wind", Check.schoolOf(x, "bear 1;wind 9 f=0"), 3);
+        Check.due("it blows", x.fall(0, 0, 0), 9);
+        Check.due("no wind", Check.schoolOf(x, "bear 1"), 4);
+        Check.due("none blows", x.fall(0, 0, 0), 0);
     }
 
     private static void layers() {

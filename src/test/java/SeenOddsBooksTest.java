@@ -121,6 +121,12 @@ public final class SeenOddsBooksTest {
             Check.due("odds of side " + side, x.odds(1, 0), 5);
             Check.due("odds of side " + side + ", below", x.odds(1, 1), 8);
         }
+        x = Check.withSchool("turn 0;bear 0");
+        for (int i = 0; i < 6; i++) {
+            x.layer(0, 0, 9, 0, 1 + i % 3);
+        }
+        Check.due("three of four sides", x.odds(1, 0), 3);
+        Check.due("three of four sides, below", x.odds(1, 1), 4);
         x = Check.withSchool("turn 0;bear 9");
         Check.due("0 .. 9 alone", x.odds(0, 0), 1);
         x.drop(20, 0);
