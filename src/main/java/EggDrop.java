@@ -214,7 +214,7 @@ public final class EggDrop {
         }
         int least = forceOf(floor, side);
         int answer = NOTHING;
-        for (int i = 0; i < box.layers.size * SIDES; i++) {
+        for (int i = 0; i < box.layers.size * SIDES && i < Layers.MAX * SIDES; i++) {
             int force = forceWithShifted(i / SIDES, i % SIDES, floor, side);
             if (force < least) {
                 least = force;
@@ -404,7 +404,7 @@ public final class EggDrop {
 
     private int prices() {
         int sum = 0;
-        for (int i = 0; i < box.layers.size; i++) {
+        for (int i = 0; i < box.layers.size && i < Layers.MAX; i++) {
             sum += price(i);
         }
         return sum;
@@ -844,23 +844,19 @@ public final class EggDrop {
             }
         }
 
-        private int readDigit() {
-            int sign = next();
-            if (sign < '0' || sign > '9') {
+        /** One or two digits, or -1; a 0 ends the number, so that a digit behind it is the fault. */
+        private int readNumber() {
+            int first = next() - '0';
+            if (first < 0 || first > 9) {
                 return -1;
             }
             at++;
-            return sign - '0';
-        }
-
-        /** One or two digits, or -1; a 0 ends the number, so that a digit behind it is the fault. */
-        private int readNumber() {
-            int first = readDigit();
-            if (first <= 0) {
+            int second = next() - '0';
+            if (first == 0 || second < 0 || second > 9) {
                 return first;
             }
-            int second = readDigit();
-            return second < 0 ? first : first * 10 + second;
+            at++;
+            return first * 10 + second;
         }
 
         /** Parts with | between, each of parts with & between. */

@@ -2,15 +2,23 @@
 final class Check {
     private static int wrong = 0;
     private static int asked = 0;
+    private static int sentences = 0;
+    private static String words = "";
 
     private Check() {
+    }
+
+    /** From here on it is tested what these words of the document say. */
+    static void sentence(String newWords) {
+        sentences++;
+        words = "\"" + newWords + "\": ";
     }
 
     static void due(String call, long got, long want) {
         asked++;
         if (got != want) {
             wrong++;
-            System.out.println(call + " answered " + got + ", due is " + want);
+            System.out.println(words + call + " answered " + got + ", due is " + want);
         }
     }
 
@@ -34,6 +42,17 @@ final class Check {
         EggDrop x = new EggDrop();
         due("school of " + text, schoolOf(x, text), 0);
         return x;
+    }
+
+    /** The answer of school() to a text that is none; the school that held holds, and the tape is empty. */
+    static void faulty(String text, int fault) {
+        EggDrop x = withSchool("bear 7");
+        due("school of \"" + text + "\"", schoolOf(x, text), -10 - fault);
+        due("count(4) behind \"" + text + "\"", x.count(4), 0);
+        due("count(1) behind \"" + text + "\"", x.count(1), 1);
+        due("told(1) behind \"" + text + "\"", x.told(1), 7);
+        due("the next school", schoolOf(x, "bear 8"), 1);
+        due("told(1) then", x.told(1), 8);
     }
 
     /** All that the calls that change nothing tell of an object. */
@@ -63,7 +82,8 @@ final class Check {
     }
 
     static void end() {
-        System.out.println(asked + " answers asked, " + wrong + " not as due");
+        String of = sentences == 0 ? "" : " by " + sentences + " sentences";
+        System.out.println(asked + " answers asked" + of + ", " + wrong + " not as due");
         if (wrong != 0 || asked == 0) {
             System.exit(1);
         }

@@ -82,89 +82,79 @@ public final class SchoolsLayersEggsTest {
         }
     }
 
-    private static void faulty(String text, int fault) {
-        EggDrop x = Check.withSchool("bear 7");
-        Check.due("school of \"" + text + "\"", Check.schoolOf(x, text), -10 - fault);
-        Check.due("count(4) behind \"" + text + "\"", x.count(4), 0);
-        Check.due("count(1) behind \"" + text + "\"", x.count(1), 1);
-        Check.due("told(1) behind \"" + text + "\"", x.told(1), 7);
-        Check.due("the next school", Check.schoolOf(x, "bear 8"), 1);
-        Check.due("told(1) then", x.told(1), 8);
-    }
-
     private static void faults() {
-        faulty("", 0);
-        faulty("x", 0);
-        faulty(" bear 1", 0);
-        faulty(";", 0);
-        faulty("B", 0);
-        faulty("bear", 4);
-        faulty("bear ", 5);
-        faulty("bear  1", 5);
-        faulty("bear1", 4);
-        faulty("beer 1", 2);
-        faulty("bear -1", 5);
-        faulty("bear 01", 6);
-        faulty("bear 00", 6);
-        faulty("bear 123", 7);
-        faulty("bear 1 ", 6);
-        faulty("bear 1 f=1", 6);
-        faulty("bear 1;", 7);
-        faulty("bear 1;;", 7);
-        faulty("bear 1; bear 2", 7);
-        faulty("bear 1,bear 2", 6);
-        faulty("turm 1", 3);
-        faulty("turn x", 5);
-        faulty("turn 1f", 6);
-        faulty("wind", 4);
-        faulty("wind 5", 6);
-        faulty("wind 5;", 6);
-        faulty("wind 5 ", 7);
-        faulty("wind 5  f=1", 7);
-        faulty("wind 123 f=1", 7);
-        faulty("wind 5 f", 8);
-        faulty("wind 5 f=", 9);
-        faulty("wind 5 f==1", 9);
-        faulty("wind 5 f!1", 8);
-        faulty("wind 5 g=1", 7);
-        faulty("wind 5 F=1", 7);
-        faulty("wind 5 f=01", 10);
-        faulty("wind 5 f=123", 11);
-        faulty("wind 5 f=1 ", 10);
-        faulty("wind 5 f=1&", 11);
-        faulty("wind 5 f=1&&s=1", 11);
-        faulty("wind 5 f=1||s=1", 11);
-        faulty("wind 5 f=1|", 11);
-        faulty("wind 5 |f=1", 7);
-        faulty("wind 5 ()", 8);
-        faulty("wind 5 (f=1", 11);
-        faulty("wind 5 (f=1;", 11);
-        faulty("wind 5 (f=1))", 12);
-        faulty("wind 5 f=1)", 10);
-        faulty("wind 5 !", 8);
-        faulty("wind 5 !)", 8);
-        faulty("wind 5 f=1!s=1", 10);
-        faulty("wind 5 f=1(s=1)", 10);
-        faulty("price 5", 7);
-        faulty("prise 5 f=1", 3);
-        faulty("price 5 f=1;wind", 16);
+        Check.faulty("", 0);
+        Check.faulty("x", 0);
+        Check.faulty(" bear 1", 0);
+        Check.faulty(";", 0);
+        Check.faulty("B", 0);
+        Check.faulty("bear", 4);
+        Check.faulty("bear ", 5);
+        Check.faulty("bear  1", 5);
+        Check.faulty("bear1", 4);
+        Check.faulty("beer 1", 2);
+        Check.faulty("bear -1", 5);
+        Check.faulty("bear 01", 6);
+        Check.faulty("bear 00", 6);
+        Check.faulty("bear 123", 7);
+        Check.faulty("bear 1 ", 6);
+        Check.faulty("bear 1 f=1", 6);
+        Check.faulty("bear 1;", 7);
+        Check.faulty("bear 1;;", 7);
+        Check.faulty("bear 1; bear 2", 7);
+        Check.faulty("bear 1,bear 2", 6);
+        Check.faulty("turm 1", 3);
+        Check.faulty("turn x", 5);
+        Check.faulty("turn 1f", 6);
+        Check.faulty("wind", 4);
+        Check.faulty("wind 5", 6);
+        Check.faulty("wind 5;", 6);
+        Check.faulty("wind 5 ", 7);
+        Check.faulty("wind 5  f=1", 7);
+        Check.faulty("wind 123 f=1", 7);
+        Check.faulty("wind 5 f", 8);
+        Check.faulty("wind 5 f=", 9);
+        Check.faulty("wind 5 f==1", 9);
+        Check.faulty("wind 5 f!1", 8);
+        Check.faulty("wind 5 g=1", 7);
+        Check.faulty("wind 5 F=1", 7);
+        Check.faulty("wind 5 f=01", 10);
+        Check.faulty("wind 5 f=123", 11);
+        Check.faulty("wind 5 f=1 ", 10);
+        Check.faulty("wind 5 f=1&", 11);
+        Check.faulty("wind 5 f=1&&s=1", 11);
+        Check.faulty("wind 5 f=1||s=1", 11);
+        Check.faulty("wind 5 f=1|", 11);
+        Check.faulty("wind 5 |f=1", 7);
+        Check.faulty("wind 5 ()", 8);
+        Check.faulty("wind 5 (f=1", 11);
+        Check.faulty("wind 5 (f=1;", 11);
+        Check.faulty("wind 5 (f=1))", 12);
+        Check.faulty("wind 5 f=1)", 10);
+        Check.faulty("wind 5 !", 8);
+        Check.faulty("wind 5 !)", 8);
+        Check.faulty("wind 5 f=1!s=1", 10);
+        Check.faulty("wind 5 f=1(s=1)", 10);
+        Check.faulty("price 5", 7);
+        Check.faulty("prise 5 f=1", 3);
+        Check.faulty("price 5 f=1;wind", 16);
     }
 
     private static void limitsOfASchool() {
-        faulty("wind 1 !!!!!!f=1", 12);
-        faulty("wind 1 ((((((f=1))))))", 12);
-        faulty("wind 1 !(!(!(f=1", 12);
-        faulty("wind 1 (((((!f=1)))))", 12);
-        faulty("wind 1 ((((f=1&!!s=1))))", 16);
+        Check.faulty("wind 1 !!!!!!f=1", 12);
+        Check.faulty("wind 1 ((((((f=1))))))", 12);
+        Check.faulty("wind 1 !(!(!(f=1", 12);
+        Check.faulty("wind 1 (((((!f=1)))))", 12);
+        Check.faulty("wind 1 ((((f=1&!!s=1))))", 16);
         String nine = "";
         for (int i = 1; i <= 9; i++) {
             nine += "bear " + i + ";";
         }
         EggDrop x = Check.withSchool(nine + "bear 44");
         Check.due("bear of ten", x.told(1), 44);
-        faulty(nine + "bear 9;", 69);
-        faulty(nine + "bear 9;turn 1", 69);
-        faulty(nine + "bear 9x", 69);
+        Check.faulty(nine + "bear 9;", 69);
+        Check.faulty(nine + "bear 9;turn 1", 69);
+        Check.faulty(nine + "bear 9x", 69);
         String hundred = "wind 50 ";
         while (hundred.length() < 92) {
             hundred += "f=1|";
@@ -174,7 +164,7 @@ public final class SchoolsLayersEggsTest {
         x = Check.withSchool(hundred);
         Check.due("the wind of a hundred signs", x.fall(0, 0, 0), 50);
         Check.due("the wind of a hundred signs, side 1", x.fall(0, 1, 0), 0);
-        faulty(hundred.substring(0, 99) + "|", 100);
+        Check.faulty(hundred.substring(0, 99) + "|", 100);
     }
 
     /** What one school or a fault has read is out of the way of the next one. */
