@@ -4,6 +4,7 @@ public final class HoldingEdgesTest {
         fromZeroOn();
         fiveAtMost();
         newestHolds();
+        olderOnesAreGone();
         faultLeavesHolding();
         faultLeavesNothing();
         noneHolds();
@@ -57,6 +58,23 @@ public final class HoldingEdgesTest {
             Check.due("wind", x.fall(0, 0, 0), 10 + i);
             Check.due("price", x.of(0, 6), 20 + i);
         }
+    }
+
+    private static void olderOnesAreGone() {
+        Check.sentence("the newest one holds: no clause of a longer one ahead of it does");
+        EggDrop x = Check.withSchool("wind 9 f=1|f=1;wind 5 f=0;price 7 f=0;bear 3;turn 3");
+        x.layer(0, 0, 1, 0, 3);
+        Check.due("its wind", x.fall(0, 0, 0), 5);
+        Check.due("its price", x.of(0, 6), 7);
+        Check.due("a shorter one", Check.schoolOf(x, "wind 1 f=0"), 1);
+        Check.due("its wind alone", x.fall(0, 0, 0), 1);
+        Check.due("no price", x.of(0, 6), 0);
+        Check.due("no bear", x.told(1), 20);
+        Check.due("no turn", x.told(2), 1);
+        Check.due("a longer fault", Check.schoolOf(x, "price 9 f=1|f=1;price 5 f=0;wind 7 f=0;"), -49);
+        Check.due("a shorter one", Check.schoolOf(x, "price 1 f=0"), 2);
+        Check.due("its price alone", x.of(0, 6), 1);
+        Check.due("no wind", x.fall(0, 0, 0), 0);
     }
 
     private static void faultLeavesHolding() {
